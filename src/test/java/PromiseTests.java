@@ -74,15 +74,13 @@ public final class PromiseTests {
     /** An open path of so many parts, all at (0, 0). */
     private static CurvePaths filled(int parts) {
         CurvePaths x = new CurvePaths();
-        while (parts - x.parts() >= 41) {
+        for (int arcs = parts / 41; arcs > 0; arcs--) {
             x.arc(0, 0, 0, 3600 * DEGREE, 0);
         }
-        if (x.parts() == 0) {
-            x.move(0, 0);
-        }
-        while (x.parts() < parts) {
+        for (int lines = parts % 41; lines > 0; lines--) {
             x.line(0, 0);
         }
+        due("parts() when filled", x.parts(), parts);
         return x;
     }
 
