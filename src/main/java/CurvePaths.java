@@ -1,5 +1,3 @@
-import java.util.Arrays;
-
 /** Paths of lines and curves in a plane, by the promises of DOC.md. */
 public final class CurvePaths {
     public static final int BAD = -1;
@@ -300,14 +298,6 @@ public final class CurvePaths {
         }
     }
 
-    // Rows grow only when a path does: an object that is hardly used stays small.
-    private static int[] withRoom(int[] row, int needed, int most) {
-        if (needed <= row.length) {
-            return row;
-        }
-        return Arrays.copyOf(row, Math.max(needed, Math.min(most, 4 * row.length)));
-    }
-
     /** The two directions of arcs. */
     private static final class Axes {
         long p;
@@ -333,15 +323,17 @@ public final class CurvePaths {
 
     /**
      * Parts, and behind one another all their points. A part knows its first point; a closing has
-     * none of its own and knows the one where its subpath begins.
+     * none of its own and knows the one where its subpath begins. The rows hold the greatest path from
+     * the first, so that no call makes any.
      */
     private static final class Path {
+        // A curve has the most points of all parts.
         static final int MOST_POINTS = 3 * MOST_PARTS;
 
-        int[] kinds = new int[16];
-        int[] firsts = new int[16];
-        int[] xs = new int[16];
-        int[] ys = new int[16];
+        final int[] kinds = new int[MOST_PARTS];
+        final int[] firsts = new int[MOST_PARTS];
+        final int[] xs = new int[MOST_POINTS];
+        final int[] ys = new int[MOST_POINTS];
         int partCount;
         int pointCount;
         int begunAt;
@@ -447,19 +439,19 @@ public final class CurvePaths {
         }
 
         private void addPart(int kind, int first) {
-            kinds = withRoom(kinds, partCount + 1, MOST_PARTS);
-            firsts = withRoom(firsts, partCount + 1, MOST_PARTS);
-            kinds[partCount] = kind;
-            firsts[partCount] = first;
-            partCount++;
+            if (partCount < MOST_PARTS) {
+                kinds[partCount] = kind;
+                firsts[partCount] = first;
+                partCount++;
+            }
         }
 
         private void addPoint(int x, int y) {
-            xs = withRoom(xs, pointCount + 1, MOST_POINTS);
-            ys = withRoom(ys, pointCount + 1, MOST_POINTS);
-            xs[pointCount] = x;
-            ys[pointCount] = y;
-            pointCount++;
+            if (pointCount < MOST_POINTS) {
+                xs[pointCount] = x;
+                ys[pointCount] = y;
+                pointCount++;
+            }
         }
     }
 
