@@ -138,6 +138,12 @@ public final class Promise07ArcPartsTest {
                 .dueParts(Tried.part(0, 56589, 33077), Tried.part(2, 33077, 56589, 50901, 42786, 42786, 50901));
     }
 
+    static void promise7_aPartFromTheFirstPlaceAboveZeroIsNotTheWhole() {
+        laid(45, 225, 0).dueParts(Tried.part(0, 65536, 3), Tried.part(2, 65536, 6, 65536, 4, 65536, 5));
+        laid(45, QUARTER_TURN, 0)
+                .dueParts(Tried.part(0, 65536, 3), Tried.part(2, 0, 65536, 65536, 36195, 36194, 65536));
+    }
+
     static void promise7_whatIsBeforeIsTakenFirstAndTheRestIsRounded() {
         // 1 degree is place 728, 5 degrees 3641: 728 * 65536 / 3641 lies nearer to 13104 than to 13103.
         laid(1 * DEGREE, 5 * DEGREE, 0)
